@@ -31,10 +31,10 @@ public final class DustParish {
     private final byte[] tape = new byte[TAPE];
     private int tapeLength = 0;
     private int faultPlace = NONE;
-    private final Reader reader = new Reader(tape);
     private Facts facts = new Facts();
     // A text with a fault must leave all as it was, so it is read into this one.
     private Facts spareFacts = new Facts();
+    private final Reader reader = new Reader(tape, spareFacts);
     private final Present now = new Present();
     private final Present kept = new Present();
     private boolean hasImage = false;
@@ -72,7 +72,7 @@ public final class DustParish {
         }
     }
 
-    public int parish(int n) {
+    public int parish(int n) throws IllegalArgumentException {
         if (n < 0 || n > tapeLength) {
             throw new IllegalArgumentException();
         }
@@ -99,7 +99,7 @@ public final class DustParish {
 
     // ---- what there is ----
 
-    public int count(int what) {
+    public int count(int what) throws NoSuchElementException {
         switch (what) {
             case 0: return facts.rooms;
             case 1: return facts.doors;
@@ -122,7 +122,7 @@ public final class DustParish {
         }
     }
 
-    public int room(int room, int what) {
+    public int room(int room, int what) throws NoSuchElementException {
         needRoom(room);
         switch (what) {
             case 0: return facts.kind[room];
@@ -136,13 +136,13 @@ public final class DustParish {
         }
     }
 
-    public int far(int room, int other) {
+    public int far(int room, int other) throws NoSuchElementException {
         needRoom(room);
         needRoom(other);
         return facts.wayFrom(room, other);
     }
 
-    public int near(int room, int steps) {
+    public int near(int room, int steps) throws NoSuchElementException {
         needRoom(room);
         int bits = 0;
         for (int other = 0; other < facts.rooms; other++) {
@@ -154,7 +154,7 @@ public final class DustParish {
         return bits;
     }
 
-    public int blow(int wind, int i, int what) {
+    public int blow(int wind, int i, int what) throws NoSuchElementException {
         if (wind < 0 || wind >= facts.winds || what < 0 || what > 2) {
             throw new NoSuchElementException();
         }
@@ -168,7 +168,7 @@ public final class DustParish {
         return what == 0 ? facts.blowFrom[at] : what == 1 ? facts.blowTo[at] : facts.tenths[at];
     }
 
-    public int wind(int day) {
+    public int wind(int day) throws IllegalArgumentException {
         if (day < 0 || day > 9999) {
             throw new IllegalArgumentException();
         }
@@ -186,7 +186,7 @@ public final class DustParish {
         return now.state.day;
     }
 
-    public int sweep(int room, int to, int much) {
+    public int sweep(int room, int to, int much) throws NoSuchElementException {
         needRoom(room);
         needRoom(to);
         if (!facts.hasDoor(room, to) || much < 1 || much > 999 || much > now.state.dust[room]) {
@@ -197,7 +197,7 @@ public final class DustParish {
         return now.state.dust[room];
     }
 
-    public int shake(int room, int to) {
+    public int shake(int room, int to) throws NoSuchElementException {
         needRoom(room);
         needRoom(to);
         if (!facts.hasDoor(room, to)) {
@@ -209,7 +209,7 @@ public final class DustParish {
         return half;
     }
 
-    public int sneeze(int room, int much) {
+    public int sneeze(int room, int much) throws NoSuchElementException {
         needRoom(room);
         if (much < 1 || much > 99) {
             return refuse(BAD_ACTS);
@@ -239,20 +239,20 @@ public final class DustParish {
 
     // ---- if only days go by ----
 
-    public int then(int room, int days) {
+    public int then(int room, int days) throws NoSuchElementException, IllegalArgumentException {
         needRoom(room);
         needAhead(days);
         tryDays(days);
         return trial.dust[room];
     }
 
-    public int taken(int days) {
+    public int taken(int days) throws IllegalArgumentException {
         needAhead(days);
         tryDays(days);
         return trial.taken - now.state.taken;
     }
 
-    public int thick(int room, int much) {
+    public int thick(int room, int much) throws NoSuchElementException, IllegalArgumentException {
         needRoom(room);
         if (much < 0 || much > MOST) {
             throw new IllegalArgumentException();
@@ -278,7 +278,7 @@ public final class DustParish {
         return NONE;
     }
 
-    public int poorest(int days) {
+    public int poorest(int days) throws IllegalArgumentException {
         needAhead(days);
         tryDays(days);
         int best = NONE;
@@ -290,7 +290,7 @@ public final class DustParish {
         return best;
     }
 
-    public int fullest(int days) {
+    public int fullest(int days) throws IllegalArgumentException {
         needAhead(days);
         trial.copy(now.state);
         int best = 0;
@@ -306,7 +306,7 @@ public final class DustParish {
         return best;
     }
 
-    public int change(int days) {
+    public int change(int days) throws IllegalArgumentException {
         needAhead(days);
         tryDays(days);
         int most = trial.taken;
@@ -333,7 +333,7 @@ public final class DustParish {
         }
     }
 
-    public int often(int days) {
+    public int often(int days) throws IllegalArgumentException {
         needAhead(days);
         int best = 1;
         int most = NONE;
@@ -350,7 +350,7 @@ public final class DustParish {
         return best;
     }
 
-    public int lost(int days) {
+    public int lost(int days) throws IllegalArgumentException {
         needAhead(days);
         tryDays(days);
         int settled = 0;
@@ -363,7 +363,7 @@ public final class DustParish {
 
     // ---- what would be best ----
 
-    public int order(int room, int i) {
+    public int order(int room, int i) throws NoSuchElementException {
         needRoom(room);
         if (i != NONE && (i < 0 || i >= facts.winds)) {
             throw new NoSuchElementException();
@@ -430,7 +430,7 @@ public final class DustParish {
         return sum;
     }
 
-    public int round(int room, int rooms) {
+    public int round(int room, int rooms) throws NoSuchElementException, IllegalArgumentException {
         needRoom(room);
         if ((rooms >>> facts.rooms) != 0) {
             throw new IllegalArgumentException();
@@ -484,7 +484,7 @@ public final class DustParish {
         return Math.min(one, other);
     }
 
-    public int shares(int deacons) {
+    public int shares(int deacons) throws IllegalArgumentException {
         if (deacons < 1 || deacons > DEACONS) {
             throw new IllegalArgumentException();
         }
@@ -509,7 +509,7 @@ public final class DustParish {
                 least = evenest(room + 1, deacons, least);
                 loads[deacon] -= dust;
             }
-            // Deacons without a load are alike: to try one of them is enough.
+            // Deacons without a load are alike: one of them is enough.
             if (loads[deacon] == 0) {
                 break;
             }
@@ -517,7 +517,7 @@ public final class DustParish {
         return least;
     }
 
-    public int from(int room, int other, int days) {
+    public int from(int room, int other, int days) throws NoSuchElementException, IllegalArgumentException {
         needRoom(room);
         needRoom(other);
         if (days < 0 || days > 9) {
@@ -543,7 +543,7 @@ public final class DustParish {
         }
     }
 
-    public int lend(int room) {
+    public int lend(int room) throws NoSuchElementException {
         needRoom(room);
         int lack = facts.clean - now.state.dust[room];
         if (lack <= 0) {
@@ -557,7 +557,7 @@ public final class DustParish {
         return NONE;
     }
 
-    public int riches(int owner) {
+    public int riches(int owner) throws NoSuchElementException {
         if (owner < 0 || owner >= OWNERS) {
             throw new NoSuchElementException();
         }
@@ -572,7 +572,7 @@ public final class DustParish {
 
     // ---- what is seen ----
 
-    public int see(int room, int days, int much) {
+    public int see(int room, int days, int much) throws NoSuchElementException {
         needRoom(room);
         if (now.sights.many >= SIGHTS || days < 0 || days > 30 || much < 0 || much > MOST) {
             return refuse(BAD_SIGHTS);
@@ -581,7 +581,7 @@ public final class DustParish {
         return now.sights.many;
     }
 
-    public int hand(int what) {
+    public int hand(int what) throws NoSuchElementException {
         if (what < 0 || what > 2) {
             throw new NoSuchElementException();
         }
@@ -625,7 +625,7 @@ public final class DustParish {
 
     // ---- the game and the years ----
 
-    public int game(int one, int other, int what) {
+    public int game(int one, int other, int what) throws NoSuchElementException, IllegalArgumentException {
         if (what < 0 || what > 1) {
             throw new NoSuchElementException();
         }
@@ -666,7 +666,7 @@ public final class DustParish {
         return left / 10 + (left < facts.clean ? 20 : 0);
     }
 
-    public int years(int seed, int n, int what) {
+    public int years(int seed, int n, int what) throws NoSuchElementException, IllegalArgumentException {
         if (what < 0 || what > 2) {
             throw new NoSuchElementException();
         }
@@ -766,9 +766,8 @@ public final class DustParish {
         final int[] dust = new int[ROOMS];
         final int[] settles = new int[ROOMS];
         int doors;
-        final int[] doorOne = new int[DOORS];
-        final int[] doorOther = new int[DOORS];
-        final int[] doorSteps = new int[DOORS];
+        private final int[] doorOne = new int[DOORS];
+        private final int[] doorOther = new int[DOORS];
         int winds;
         final int[] blows = new int[WINDS];
         final int[] blowFrom = new int[WINDS * BLOWS];
@@ -790,6 +789,17 @@ public final class DustParish {
             every = 7;
             clean = 10;
             rule.clear();
+            Arrays.fill(ways, NONE);
+        }
+
+        void addDoor(int one, int other, int steps) {
+            if (doors < DOORS) {
+                doorOne[doors] = one;
+                doorOther[doors] = other;
+                ways[one * ROOMS + other] = steps;
+                ways[other * ROOMS + one] = steps;
+                doors++;
+            }
         }
 
         // What follows from what is told, kept because it is asked for often.
@@ -798,13 +808,8 @@ public final class DustParish {
             for (int room = 0; room < rooms; room++) {
                 houses[owner[room]]++;
             }
-            Arrays.fill(ways, NONE);
             for (int room = 0; room < rooms; room++) {
                 ways[room * ROOMS + room] = 0;
-            }
-            for (int door = 0; door < doors; door++) {
-                ways[doorOne[door] * ROOMS + doorOther[door]] = doorSteps[door];
-                ways[doorOther[door] * ROOMS + doorOne[door]] = doorSteps[door];
             }
             for (int middle = 0; middle < rooms; middle++) {
                 shortenBy(middle);
@@ -1266,16 +1271,17 @@ public final class DustParish {
     private static final class Reader {
         private final Tokens tokens;
         private final RuleReader rules;
-        private Facts facts = null;
+        private Facts facts;
         private int told = 0;
         private boolean hasCalendar = false;
         private boolean hasEvery = false;
         private boolean hasClean = false;
         private boolean hasTithe = false;
 
-        Reader(byte[] text) {
+        Reader(byte[] text, Facts into) {
             tokens = new Tokens(text);
-            rules = new RuleReader(tokens);
+            rules = new RuleReader(tokens, into.rule);
+            facts = into;
         }
 
         int place() {
@@ -1402,8 +1408,7 @@ public final class DustParish {
         }
 
         private int readDoor() {
-            int door = facts.doors;
-            if (door >= DOORS) {
+            if (facts.doors >= DOORS) {
                 return 2;
             }
             tokens.step();
@@ -1419,16 +1424,13 @@ public final class DustParish {
             if (fault != 0) {
                 return fault;
             }
-            facts.doorOne[door] = one;
-            facts.doorOther[door] = tokens.value;
+            int other = tokens.value;
             tokens.step();
             fault = readNumber(1, 9);
-            if (fault != 0) {
-                return fault;
+            if (fault == 0) {
+                facts.addDoor(one, other, told);
             }
-            facts.doorSteps[door] = told;
-            facts.doors++;
-            return 0;
+            return fault;
         }
 
         private int readWind() {
@@ -1546,10 +1548,11 @@ public final class DustParish {
         private boolean startsExpr = true;
         private boolean notMayStand = true;
         private final Tokens tokens;
-        private Rule rule = null;
+        private Rule rule;
 
-        RuleReader(Tokens from) {
+        RuleReader(Tokens from, Rule into) {
             tokens = from;
+            rule = into;
         }
 
         int read(Rule into) {
