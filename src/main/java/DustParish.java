@@ -1545,7 +1545,6 @@ public final class DustParish {
         private int depth = 0;
         private int nots = 0;
         private boolean wantsPart = true;
-        private boolean startsExpr = true;
         private boolean notMayStand = true;
         private final Tokens tokens;
         private Rule rule;
@@ -1559,7 +1558,7 @@ public final class DustParish {
             rule = into;
             many = 0;
             depth = 0;
-            wantExpr();
+            wantNot();
             for (int i = 0; i <= TAPE; i++) {
                 if (!wantsPart && depth == 0 && tokens.isSign(';')) {
                     release(STRENGTH_OR);
@@ -1574,11 +1573,6 @@ public final class DustParish {
             return 1;
         }
 
-        private void wantExpr() {
-            wantNot();
-            startsExpr = true;
-        }
-
         private void wantNot() {
             wantPart();
             notMayStand = true;
@@ -1587,7 +1581,6 @@ public final class DustParish {
 
         private void wantPart() {
             wantsPart = true;
-            startsExpr = false;
             notMayStand = false;
         }
 
@@ -1596,13 +1589,13 @@ public final class DustParish {
             if (!opens && tokens.what != Tokens.WORD && tokens.what != Tokens.NUMBER) {
                 return 1;
             }
-            if (startsExpr && depth >= WITHIN) {
+            // So deep it can only be the first of its expression: none goes on behind it.
+            if (depth >= WITHIN) {
                 return 2;
             }
-            startsExpr = false;
             if (opens) {
                 depth++;
-                wantExpr();
+                wantNot();
                 return hold(OPEN);
             }
             if (notMayStand && tokens.isWord("not")) {

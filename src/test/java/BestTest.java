@@ -135,6 +135,9 @@ public final class BestTest {
         CHECK.due("an attic has less, too", -1, () -> x.lend(3));
         DustParish y = Check.told("attic 0 0 0;pew 1 20 0;door 0 1 1;");
         CHECK.due("to an attic", 1, () -> y.lend(0));
+        DustParish z = Check.told("pew 0 99 0;pew 1 9 0;door 0 1 1;");
+        CHECK.due("from room 0", 0, () -> z.lend(1));
+        CHECK.due("lacks but one", 0, () -> z.lend(1));
         CHECK.noSuch("none", () -> y.lend(2));
         CHECK.noSuch("-1", () -> y.lend(-1));
     }

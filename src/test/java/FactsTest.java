@@ -158,5 +158,9 @@ public final class FactsTest {
         gives("1<2 and 5", 1);
         gives("(owner=3)*(dust/2)", 462);
         gives("0-9999*9999*22", 925);
+        DustParish kinds = Check.told("pew 0 9 0;chapel 1 9 0;attic 5 9 0;tithe 4+kind-owner*4/5;");
+        CHECK.due("of a pew", 4, () -> kinds.room(0, 5));
+        CHECK.due("of a chapel", 5, () -> kinds.room(1, 5));
+        CHECK.due("of an attic", 2, () -> kinds.room(2, 5));
     }
 }

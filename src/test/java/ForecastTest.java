@@ -143,6 +143,8 @@ public final class ForecastTest {
         CHECK.due("the greater one behind", 3, () -> t.change(2));
         DustParish s = Check.told(halves + "calendar 0 1 5 0 5 5 5 5 5 5;every 2;tithe (owner=1)*dust;");
         CHECK.due("the lesser place first", 13, () -> s.change(2));
+        DustParish r = Check.told(halves + "calendar 5 0;every 1;tithe (owner=1)*dust;");
+        CHECK.due("side by side", 1, () -> r.change(1));
     }
 
     private static void often() {
@@ -176,6 +178,11 @@ public final class ForecastTest {
         CHECK.due("to a chapel", 28, () -> x.lost(1));
         CHECK.due("taken is not lost", 28, () -> x.lost(2));
         DustParish y = Check.told("attic 0 999 99;tithe 0;");
+        // 59, 66, 3; then 69, 71, 9 and 34 go, of which 17 come.
+        CHECK.due("taken ahead is none of it", 17, () -> {
+            x.days(3);
+            return x.lost(1);
+        });
         CHECK.due("not yet", 0, () -> y.lost(45));
         CHECK.due("above the most", 999 + 99 * 198 - 9999, () -> y.lost(99));
     }

@@ -36,6 +36,12 @@ public final class GameTest {
         game("pew 1 1 0;pew 2 100 0;clean 0;", 2, 1, 2, 10);
         // An attic that has less than clean loses 20, too: 2 4, 4 22; 21 5, 3 3.
         game("attic 0 24 0;pew 1 40 0;clean 24;", 0, 1, 2, 0);
+        // 20 2, 1 21; 20 2, 1 1.
+        game("pew 0 9 0;pew 1 20 0;clean 11;", 0, 1, 2, 0);
+        // Who shakes half of it away is below clean: 40 or 20 and 20, 42 or 21 and 20, 38 or 19 and 20.
+        game("pew 0 400 0;pew 1 0 0;clean 201;", 0, 1, 4, 0);
+        game("pew 0 420 0;pew 1 0 0;clean 211;", 0, 1, 2, 10);
+        game("pew 0 380 0;pew 1 0 0;clean 191;", 0, 1, 2, 0);
         game("pew 0 100 0;", 0, 1, 0, -1);
         game("pew 0 100 0;", 1, 0, 0, -1);
         game("", 4, 5, 0, -1);

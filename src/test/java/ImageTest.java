@@ -25,7 +25,12 @@ public final class ImageTest {
         x.days(2);
         x.shake(0, 1);
         x.plan(0, 0);
-        x.see(0, 3, 50);
+        x.sneeze(0, 4);
+        int inOne = x.then(0, 3);
+        int inOther = x.then(1, 1);
+        x.undo();
+        x.see(0, 3, inOne);
+        x.see(1, 1, inOther);
         x.see(0, 31, 50);
         x.days(0);
         Check.tell(x, "x");
@@ -38,6 +43,8 @@ public final class ImageTest {
             rooms[i] = x.room(i / 7, i % 7);
         }
         int hands = x.hand(0);
+        int first = x.hand(1);
+        CHECK.due("some hands", 1, () -> hands > 0 && first > 0 ? 1 : 0);
         x.image();
         x.undo();
         x.undo();
@@ -48,6 +55,7 @@ public final class ImageTest {
         x.plan(0, 9);
         x.forget();
         x.see(1, 0, 0);
+        x.see(1, 30, 1);
         x.see(1, -1, 0);
         Check.tell(x, "pew");
         for (int again = 0; again < 2; again++) {
@@ -62,6 +70,7 @@ public final class ImageTest {
             }
             CHECK.due("calendar", 0, () -> x.wind(0));
             CHECK.due("what is seen", hands, () -> x.hand(0));
+            CHECK.due("whose hand", first, () -> x.hand(1));
             CHECK.due("fault stays", 3, x::fault);
             CHECK.due("undo of the plan", 4, x::undo);
             CHECK.due("calendar", 5, () -> x.wind(0));

@@ -35,6 +35,7 @@ public final class TextTest {
         meanings();
         expressions();
         zeroBlows();
+        textBehindText();
         CHECK.end();
     }
 
@@ -124,6 +125,14 @@ public final class TextTest {
         bad(1, "~5;");
         bad(1, "~pews 0 1 2;");
         bad(1, "~pewchapel 0 1 2;");
+        bad(1, "~pewz 0 1 2;");
+        bad(1, "~zpew 0 1 2;");
+        bad(1, "~apew 0 1 2;");
+        bad(1, "~pex 0 1 2;");
+        bad(1, "~hew 0 1 2;");
+        bad(1, "pew~{ 0 1 2;");
+        bad(1, "pew~` 0 1 2;");
+        bad(1, "pew 0~: 1 2;");
         bad(1, "pew~P 0 1 2;");
         bad(1, "pew 0~, 1 2;");
         bad(1, "pew 0 1 2;~\u00e9");
@@ -281,6 +290,38 @@ public final class TextTest {
         bad(2, "tithe 1 + ~00000;");
         bad(1, "tithe 1 ~00000;");
         good("tithe " + times(346, "1+") + "1;");
+    }
+
+    private static void textBehindText() {
+        String whole = "pew 0 10 1;chapel 1 20 2;attic 1 30 3;door 0 1 2;door 1 2 1;wind;blow 0 1 1;blow 0 1 2;wind;blow 1 0 1;"
+            + "calendar 0 1 5;every 3;clean 12;tithe dust and (not kind or day);";
+        String[] bad = {"pew 0 1", whole + "tithe", whole.replace("day", "(((((("), "every 2;clean 2;calendar 5;tithe 1 <"};
+        DustParish x = new DustParish();
+        for (int i = 0; i < bad.length; i++) {
+            String spoilt = bad[i];
+            CHECK.due("whole", 0, () -> Check.tell(x, whole));
+            x.sweep(1, 0, 5);
+            CHECK.due("rule", 1, () -> x.room(0, 5));
+            CHECK.due("blows", 2, () -> x.blow(0, -1, 0));
+            CHECK.due("spoilt " + spoilt, 1, () -> Math.min(1, Check.tell(x, spoilt)));
+            CHECK.due("rule stays", 1, () -> x.room(0, 5));
+            CHECK.due("dust stays", 15, () -> x.room(0, 2));
+            CHECK.due("far stays", 3, () -> x.far(0, 2));
+            CHECK.due("little", 0, () -> Check.tell(x, "pew 4 33 1;attic 1 7 0;wind;"));
+            int[] due = {2, 0, 1, 0, 7, 10, 0, 40, 0, 0, 0, 0, 0, 0, i + 1, 0, 0};
+            for (int j = 0; j < due.length; j++) {
+                int what = j;
+                CHECK.due("anew count " + j, due[j], () -> x.count(what));
+            }
+            CHECK.due("no rule", 3, () -> x.room(0, 5));
+            CHECK.due("nothing brought", 0, () -> x.room(0, 4));
+            CHECK.due("no way", -1, () -> x.far(0, 1));
+            CHECK.due("no door", 0, () -> x.room(0, 6));
+            CHECK.due("no blows", 0, () -> x.blow(0, -1, 0));
+            CHECK.due("calm", 5, () -> x.wind(0));
+            CHECK.due("rich anew", 0, () -> Check.tell(x, "pew 1 33 1;tithe rich;"));
+            CHECK.due("rich", 1, () -> x.room(0, 5));
+        }
     }
 
     private static void zeroBlows() {
