@@ -47,8 +47,6 @@ public final class DustParish {
 
     public DustParish() {
         facts.clear();
-        facts.measure();
-        now.begin(facts);
     }
 
     // ---- the tape and the text ----

@@ -91,6 +91,9 @@ public final class BestTest {
         CHECK.badArgument("-1", () -> x.shares(-1));
         DustParish y = Check.told("pew 0 0 0;pew 0 999 0;pew 0 0 0;pew 0 1 0;");
         CHECK.due("fewer than rooms", 999, () -> y.shares(4));
+        DustParish one = Check.told("pew 0 1 0;pew 0 5 0;pew 0 1 0;");
+        CHECK.due("a grain first", 5, () -> one.shares(2));
+        CHECK.due("more deacons than rooms", 5, () -> one.shares(4));
         DustParish z = Check.told("pew 0 8 0;pew 0 7 0;pew 0 6 0;pew 0 5 0;pew 0 4 0;");
         CHECK.due("not by the fullest first", 15, () -> z.shares(2));
         DustParish nine = Check.told("pew 0 9 0;pew 0 8 0;pew 0 7 0;pew 0 6 0;pew 0 5 0;pew 0 4 0;pew 0 3 0;pew 0 2 0;pew 0 1 0;");

@@ -165,7 +165,8 @@ public final class ForecastTest {
         DustParish v = Check.told("pew 0 100 0;pew 1 0 0;door 0 1 1;every 1;tithe brought*(day=5);");
         v.sweep(0, 1, 60);
         CHECK.due("as brought on day 5", 6, () -> v.often(9));
-        CHECK.due("of day 0", 1, () -> v.often(5));
+        CHECK.due("day 5 is the sixth", 6, () -> v.often(6));
+        CHECK.due("ahead of day 5", 1, () -> v.often(5));
         DustParish u = Check.told("pew 0 100 0;pew 1 0 0;door 0 1 1;every 1;tithe brought*(day=29);");
         u.sweep(0, 1, 60);
         CHECK.due("as brought on day 29", 30, () -> u.often(99));
