@@ -15,6 +15,7 @@ final class AskEdges extends Edges {
         thick();
         heresy();
         order();
+        everyOrder();
         orderRefused();
         alms();
         round();
@@ -121,6 +122,31 @@ final class AskEdges extends Edges {
         row("tithes are taken", tithed, 2, 73, 1, 0);
     }
 
+    /** For each order of five WINDS a row of ROOMS to whose end dust comes by that order alone. */
+    private void everyOrder() {
+        int[] place = new int[5];
+        for (int number = 0; number < 3125; number++) {
+            int bits = 0;
+            for (int i = 0, rest = number; i < 5; i++, rest /= 5) {
+                place[i] = rest % 5;
+                bits |= 1 << place[i];
+            }
+            if (bits != 31) {
+                continue;
+            }
+            StringBuilder text = new StringBuilder("pew 0 999 0;" + "pew 0 0 0;".repeat(5) + "every 30;");
+            int[] row = new int[5];
+            for (int wind = 0; wind < 5; wind++) {
+                text.append("door ").append(wind).append(' ').append(wind + 1).append(" 1;");
+            }
+            for (int wind = 0; wind < 5; wind++) {
+                text.append("wind;blow ").append(place[wind]).append(' ').append(place[wind] + 1).append(" 9;");
+                row[place[wind]] = wind;
+            }
+            row("only by this order", Check.told(text.toString()), 5, 589, row);
+        }
+    }
+
     private void row(String what, DustParish x, int room, int much, int... row) {
         due(what + ": how much", much, () -> x.order(room, -1));
         for (int i = 0; i < row.length; i++) {
@@ -167,6 +193,8 @@ final class AskEdges extends Edges {
         due("through none", 0, () -> x.round(0, 0));
         due("through itself", 0, () -> x.round(4, 16));
         due("through one", 1, () -> x.round(0, 2));
+        due("to room 0", 1, () -> x.round(1, 1));
+        due("room 0 at the end", 5 + 2, () -> x.round(3, 5));
         due("the order is free", 1 + 1 + 2 + 5, () -> x.round(0, 15));
         due("the end, too", 1 + 2, () -> x.round(1, 5));
         due("by a room that isn't told", 8, () -> x.round(1, 8));
@@ -228,6 +256,11 @@ final class AskEdges extends Edges {
             due("left in " + i, left[i], () -> halves.from(0, 0, days));
             due("gone in " + i, 10000 - left[i], () -> halves.from(0, 1, days));
         }
+        DustParish winds = good("pew 0 0 0;pew 0 0 0;door 0 1 1;wind;wind;wind;wind;wind;" + "blow 0 1 1;".repeat(8) + "calendar 4 5 0;");
+        // Eight times a tenth, cut down: 9000 8100 7290 6561 5905 5315 4784 4306.
+        due("the last blow of the last wind", 4306, () -> winds.from(0, 0, 1));
+        due("a calm of five winds", 4306, () -> winds.from(0, 0, 2));
+        due("a wind without blows", 4306, () -> winds.from(0, 0, 3));
         halves.plan(0, 5);
         due("by the calendar as it is", 10000, () -> halves.from(0, 0, 9));
         x.days(1);
@@ -262,6 +295,7 @@ final class AskEdges extends Edges {
         says(27, "THE FULLEST DAY. IllegalArgumentException: not 0 to 99.");
         DustParish x = good("pew 0 0 1;pew 0 50 0;tithe 0;");
         due("of 0", 0, () -> x.fullest(0));
+        x.then(0, 99);
         due("of 1", 1, () -> x.fullest(1));
         due("of 99", 99, () -> x.fullest(99));
         due("all alike", 0, () -> good("pew 0 5 0;tithe 0;").fullest(99));
@@ -292,6 +326,7 @@ final class AskEdges extends Edges {
         due("of like ones the first", 1, () -> good(rooms + "calendar 5 0 0 0;").change(1));
         due("as much as without", -1, () -> good(rooms + "calendar 1 0 1 0;").change(1));
         due("less than without", -1, () -> good(rooms + "calendar 1 0;").change(1));
+        due("both numbers change", -1, () -> good(rooms.replace("every 1", "every 2") + "calendar 5 0;").change(2));
         due("in no days", -1, () -> x.change(0));
         due("one number", -1, () -> good(rooms + "calendar 0;").change(99));
         due("like numbers", -1, () -> good(rooms + "calendar 0 0 0;").change(99));
@@ -313,6 +348,7 @@ final class AskEdges extends Edges {
         due("just enough", 1, () -> good("pew 0 4 0;pew 0 16 0;pew 0 16 0;" + doors).lend(0));
         due("one too few", 2, () -> good("pew 0 4 0;pew 0 15 0;pew 0 16 0;" + doors).lend(0));
         due("both too few", -1, () -> good("pew 0 4 0;pew 0 15 0;pew 0 15 0;" + doors).lend(0));
+        due("room 0", 0, () -> good("pew 0 16 0;pew 0 4 0;pew 0 99 0;door 0 1 1;door 1 2 1;").lend(1));
         due("no door", -1, () -> good("pew 0 4 0;pew 0 15 0;pew 0 15 0;pew 0 999 0;" + doors).lend(0));
         due("lacks but one", 1, () -> good("pew 0 9 0;pew 0 11 0;pew 0 99 0;" + doors).lend(0));
         due("just clean", -1, () -> good("pew 0 10 0;pew 0 99 0;pew 0 99 0;" + doors).lend(0));

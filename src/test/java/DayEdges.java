@@ -77,6 +77,14 @@ final class DayEdges extends Edges {
             int day = i;
             due("wind of day " + i, due[i], () -> round.wind(day));
         }
+        DustParish five = good("pew 0 100 0;pew 0 0 0;door 0 1 1;wind;wind;wind;wind;wind;" + "blow 0 1 1;".repeat(8) + "calendar 5 4 3;every 30;");
+        five.days(1);
+        dust("a calm of five winds", five, 100, 0);
+        five.days(1);
+        // 90 81 73 66 60 54 49 45.
+        dust("eight blows of the last wind", five, 45, 55);
+        five.days(1);
+        dust("a wind without blows", five, 45, 55);
         DustParish wraps = good("pew 0 999 0;pew 0 0 0;door 0 1 1;wind;blow 0 1 9;calendar 5 5 5 5 5 5 5 5 5 0;every 30;");
         wraps.days(9);
         dust("nine calm days", wraps, 999, 0);

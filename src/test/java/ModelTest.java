@@ -181,9 +181,27 @@ public final class ModelTest {
         return some[random.nextInt(some.length)];
     }
 
+    /** As many ROOMS, DOORS, WINDS and numbers of the CALENDAR as can be, one ROOM without a DOOR, eight BLOWS of the last WIND. */
+    private String greatest() {
+        StringBuilder text = new StringBuilder();
+        for (int i = 0; i < 9; i++) {
+            text.append(pick("pew ", "chapel ", "attic ")).append(upTo(5)).append(' ').append(upTo(999)).append(' ').append(upTo(99)).append(';');
+        }
+        for (int i = 0; i < 14; i++) {
+            text.append("door ").append(i < 7 ? "0 " + (i + 1) : i < 13 ? "1 " + (i - 5) : "2 3").append(' ').append(1 + upTo(8)).append(';');
+        }
+        for (int i = 0; i < 5; i++) {
+            text.append("wind;blow ").append(i + 1).append(" 0 ").append(1 + upTo(8)).append(';');
+        }
+        for (int i = 1; i < 8; i++) {
+            text.append("blow 0 ").append(i).append(" ").append(1 + upTo(8)).append(';');
+        }
+        return text + "calendar 0 1 2 3 4 5 4 3 2 4;" + pick("", "every 1;", "every 30;") + pick("", "clean 999;", "clean 0;");
+    }
+
     private void calls() {
         for (int i = 0; i < 2; i++) {
-            tell(upTo(5) == 0 ? spoilt(text()) : text());
+            tell(upTo(5) == 0 ? spoilt(text()) : upTo(9) == 0 ? greatest() : text());
         }
         for (int i = 0; i < 120; i++) {
             switch (upTo(3)) {

@@ -33,6 +33,9 @@ public final class RefusedTest {
             refusedRooms();
             questions();
             tryAll(life);
+            ROWS.clear();
+            questions();
+            questionsBehindQuestions(life);
         }
         ROWS.clear();
         fullAlone();
@@ -158,6 +161,18 @@ public final class RefusedTest {
                     CHECK.due(row.name(), row.due(), () -> answer);
                 }
                 alike(row.name() + ", way " + way, after(twin, way, new int[3], true), after(x, way, refused, true));
+            }
+        }
+    }
+
+    /** What one question leaves in rows that are used again is nothing to the next one. */
+    private static void questionsBehindQuestions(Supplier<DustParish> life) {
+        for (Row first : ROWS) {
+            for (Row second : ROWS) {
+                long due = Check.ask(() -> second.call().applyAsLong(life.get()));
+                DustParish x = life.get();
+                Check.ask(() -> first.call().applyAsLong(x));
+                CHECK.due(second.name() + " behind " + first.name(), due, () -> second.call().applyAsLong(x));
             }
         }
     }

@@ -177,6 +177,8 @@ final class SightEdges extends Edges {
         plays("pew 0 390 0;pew 1 0 0;clean 201;", 0, 1, 4, 0);
         plays("pew 0 380 0;pew 1 0 0;clean 201;", 0, 1, 2, 0);
         plays("pew 0 420 0;pew 1 0 0;clean 211;", 0, 1, 2, 10);
+        // Half of the other one's comes: 22 22, 3 21; 21 3, 22 22.
+        plays("pew 0 20 0;pew 1 20 0;clean 25;", 0, 1, 2, 1);
         DustParish full = good("pew 0 999 99;pew 1 999 99;tithe 0;clean 0;");
         pass(full, 120);
         // 999 999, 999 500; 500 999, 999 999: what is more than 9999 is lost.
@@ -421,6 +423,13 @@ final class SightEdges extends Edges {
             due("its acts", 1, () -> x.count(11));
         }
         due("at once again", 1, () -> held(x.restore()));
+        x.undo();
+        x.sneeze(0, 50);
+        x.sneeze(0, 40);
+        x.restore();
+        due("its first act, though others stood there", 0, x::undo);
+        dust("as ahead of it", x, 100);
+        due("nothing is stolen", 0, () -> x.count(9));
         DustParish empty = new DustParish();
         empty.image();
         empty.days(30);
@@ -438,8 +447,8 @@ final class SightEdges extends Edges {
         for (int left = 39; left >= 0; left--) {
             int due = left;
             due("acts of the image", due, many::undo);
+            due("as ahead of each", due + 1, () -> many.count(9));
         }
-        due("those that are kept", 1, () -> many.count(9));
     }
 
     private void notRestored() {

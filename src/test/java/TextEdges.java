@@ -33,6 +33,7 @@ final class TextEdges extends Edges {
         newObject();
         feed();
         parish();
+        textBehindText();
         parishRefused();
         fault();
     }
@@ -156,6 +157,26 @@ final class TextEdges extends Edges {
         badArgument("701 bytes", () -> x.parish(701));
         due("all but the last", 1, () -> x.parish(700));
         due("it ends too soon", 700, x::fault);
+        bad(1, " ".repeat(696) + "wind~");
+        bad(1, " ".repeat(694) + "every1~");
+        bad(1, " ".repeat(693) + "tithe 1~");
+        good(" ".repeat(692) + "clean 1;");
+        good(" ".repeat(700));
+        good("\n".repeat(700));
+        good("tithe" + " ".repeat(693) + "1;");
+        cut("tithe dusty", 10, 1, 10);
+        cut("pew 0 1 2;windy", 14, 1, 14);
+        cut("tithe 12345;", 10, 1, 10);
+        cut("clean 12;", 8, 1, 8);
+        cut("tithe notes", 9, 1, 9);
+    }
+
+    /** Of what is fed only the first n bytes are the text. */
+    private void cut(String fed, int n, int fault, int place) {
+        DustParish x = new DustParish();
+        Check.feed(x, fed);
+        due(n + " bytes of " + fed, fault, () -> x.parish(n));
+        due("place in " + n + " bytes of " + fed, place, x::fault);
     }
 
     private void tokens() {
@@ -175,6 +196,11 @@ final class TextEdges extends Edges {
         }
         good("pew0 1 2;pew 0 0001 2;pew\n0\n \n1  2\n;tithe(dust+1)*2/3-4<5;");
         good("pew 0 1 2;tithe not dust=1or day<2and 3;");
+        for (char c = 'a'; c <= 'z'; c++) {
+            bad(3, "tithe ~" + c + ";");
+            bad(1, "~pew" + c + " 0 1 2;");
+            bad(1, "~" + c + "pew 0 1 2;");
+        }
         bad(1, "~pewpew 0 1 2;");
         bad(1, "~pe w 0 1 2;");
         bad(1, "~p\new 0 1 2;");
@@ -275,6 +301,14 @@ final class TextEdges extends Edges {
         gives("0 or 0 or 0 or 3", 1);
         gives("1 and 1 and 1 and 0", 0);
         gives("not not not 0", 1);
+        // As deep and as long a rule as can wait for its end.
+        String deepest = "0 or 1 and not not not not not not 7 = 1 + 2 * 3";
+        for (int i = 0; i < 5; i++) {
+            gives(deepest, 1);
+            gives(deepest.replace("7", "8"), 0);
+            deepest = "0 or 1 and not not not not not not 3 = 1 + 2 * (" + deepest + ")";
+        }
+        gives(deepest, 1);
         bad(1, "tithe 1 < 2 ~< 3;");
         bad(1, "tithe 1 < 2 ~= 3;");
         bad(1, "tithe 1 = 2 ~= 3;");
@@ -575,6 +609,54 @@ final class TextEdges extends Edges {
         due("no act", -1, x::undo);
         due("of no bytes", 0, () -> x.parish(0));
         due("no rooms", 0, () -> x.count(0));
+    }
+
+    /** Nothing of an earlier text, whole or with a FAULT in it, is left in the next one. */
+    private void textBehindText() {
+        String great = NINE.replace("pew", "chapel").replace("0 0;", "99 9;") + doorsOfNine(14)
+            + "wind;blow 0 1 9;blow 1 0 9;wind;blow 0 1 9;wind;wind;wind;calendar 0 1 2 3 4 5;every 1;clean 999;tithe (1 or 2)*(3<4);";
+        String[] earlier = {great, "tithe (((((1+", "tithe 1 + 2 * (3 < (not ", "every 2;clean 2;calendar 5;tithe 1 ~", great + "x", "tithe 1;tithe"};
+        String small = "pew 0 70 5;pew 1 44 3;attic 0 1 1;pew 0 2 2;door 0 1 1;wind;blow 0 1 1;wind;calendar 0 5;tithe dust/2+rich;";
+        String least = "pew 5 12 1;wind;";
+        for (String text : earlier) {
+            for (String next : new String[] {small, least}) {
+                DustParish x = new DustParish();
+                due("a great text", 0, () -> Check.tell(x, great));
+                due("once more", 0, () -> Check.tell(x, great));
+                Check.tell(x, text);
+                due("told behind " + text, 0, () -> Check.tell(x, next));
+                alike("behind " + text, good(next), x);
+            }
+        }
+    }
+
+    /** Two objects of which one has had other texts: all that a text tells, and what comes of it. */
+    private void alike(String when, DustParish due, DustParish x) {
+        for (int i = 0; i < 13; i++) {
+            int what = i;
+            due(when + ": count " + i, due.count(i), () -> x.count(what));
+        }
+        for (int i = 0; i < 63; i++) {
+            int at = i;
+            due(when + ": room " + i, Check.ask(() -> due.room(at / 7, at % 7)), () -> x.room(at / 7, at % 7));
+        }
+        for (int i = 0; i < 9; i++) {
+            int at = i;
+            due(when + ": far " + i, Check.ask(() -> due.far(0, at)), () -> x.far(0, at));
+            due(when + ": wind " + i, due.wind(i), () -> x.wind(at));
+            due(when + ": blows " + i, Check.ask(() -> due.blow(at, -1, 0)), () -> x.blow(at, -1, 0));
+            due(when + ": lost " + i, due.lost(i), () -> x.lost(at));
+            due(when + ": taken " + i, due.taken(9 * i), () -> x.taken(9 * at));
+            due(when + ": years " + i, due.years(i, 60, i % 3), () -> x.years(at, 60, at % 3));
+        }
+        for (int owner = 0; owner < 6; owner++) {
+            int of = owner;
+            due(when + ": riches " + owner, due.riches(owner), () -> x.riches(of));
+        }
+        due(when + ": shares", due.shares(2), () -> x.shares(2));
+        due(when + ": alms", due.alms(), x::alms);
+        due(when + ": heresy", due.heresy(), x::heresy);
+        due(when + ": hands", due.hand(0), () -> x.hand(0));
     }
 
     private static long[] counts(DustParish x) {
