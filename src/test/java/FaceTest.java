@@ -1,4 +1,5 @@
 import java.io.IOException;
+import java.lang.reflect.Array;
 import java.lang.reflect.Constructor;
 import java.lang.reflect.Field;
 import java.lang.reflect.InvocationTargetException;
@@ -8,13 +9,14 @@ import java.nio.file.Files;
 import java.nio.file.Path;
 import java.util.ArrayList;
 import java.util.Arrays;
+import java.util.IdentityHashMap;
 import java.util.List;
 import java.util.Random;
 import java.util.TreeSet;
 import java.util.regex.Matcher;
 import java.util.regex.Pattern;
 
-/** The face is the document's and no more; rules of LANGUAGE.md that can be seen from outside; wild calls. */
+/** The face is the document's and no more; how much room an object takes; wild calls. */
 public final class FaceTest {
     private static final Check CHECK = new Check("FaceTest");
     private static final String[] FACE = {
@@ -34,12 +36,29 @@ public final class FaceTest {
         "void forget()", "int game(int,int,int) IllegalArgumentException NoSuchElementException",
         "int years(int,int,int) IllegalArgumentException NoSuchElementException", "void image()", "boolean restore()"};
 
-    public static void main(String[] args) throws IOException, IllegalAccessException {
+    public static void main(String[] args) throws IllegalAccessException, IOException {
+        documentsFace();
         face();
-        nested();
-        source();
+        size();
         wildCalls();
         CHECK.end();
+    }
+
+    /** The document's face, word by word, is the one that is looked for here. */
+    private static void documentsFace() throws IOException {
+        String page = Files.readString(Path.of("../shared/DOC.md"));
+        String block = page.substring(page.indexOf("```java"), page.indexOf("```\n", page.indexOf("```java") + 7));
+        Matcher line = Pattern.compile("public (\\w+ \\w+\\()([^)]*)\\)(?: throws ([^;]*))?;").matcher(block);
+        TreeSet<String> found = new TreeSet<>();
+        while (line.find()) {
+            StringBuilder text = new StringBuilder(line.group(1)).append(line.group(2).replaceAll(" \\w+(, )?", ",").replaceAll(",$", ""));
+            text.append(')');
+            String thrown = line.group(3) == null ? "" : line.group(3);
+            Arrays.stream(thrown.split(", ")).filter(e -> !e.isEmpty()).sorted().forEach(e -> text.append(' ').append(e));
+            found.add(text.toString());
+        }
+        CHECK.due("the document's face: " + found, 1, () -> found.equals(new TreeSet<>(Arrays.asList(FACE))) ? 1 : 0);
+        CHECK.due("lines of the document's face", block.split("public ").length - 1, () -> found.size() + 3);
     }
 
     private static String told(Method method) {
@@ -86,55 +105,52 @@ public final class FaceTest {
         CHECK.due("NONE", -1, () -> DustParish.NONE);
     }
 
-    private static void nested() {
-        Class<?>[] all = DustParish.class.getDeclaredClasses();
-        CHECK.due("at most twelve classes", 1, () -> all.length < 12 ? 1 : 0);
-        TreeSet<String> names = new TreeSet<>();
-        faceMethods().forEach(m -> names.add(m.getName()));
-        List<Class<?>> classes = new ArrayList<>(Arrays.asList(all));
-        classes.add(DustParish.class);
-        for (Class<?> one : classes) {
-            int fields = 0;
-            for (Field field : one.getDeclaredFields()) {
-                fields += Modifier.isStatic(field.getModifiers()) ? 0 : 1;
-            }
-            int many = fields;
-            CHECK.due("at most twenty fields in " + one, 1, () -> many <= 20 ? 1 : 0);
-            for (Method method : one.getDeclaredMethods()) {
-                CHECK.due("at most seven parameters: " + method, 1, () -> method.getParameterCount() <= 7 ? 1 : 0);
-                boolean ofFace = one == DustParish.class && Modifier.isPublic(method.getModifiers());
-                CHECK.due("no name of the face: " + method, 1, () -> ofFace || !names.contains(method.getName()) ? 1 : 0);
-            }
+    /** An object takes so little room that a run can have hundreds of them; its calls take none. */
+    private static void size() {
+        DustParish x = Check.told("pew 0 100 10;pew 1 100 10;door 0 1 2;wind;blow 0 1 5;calendar 0 5;tithe dust/4+brought;");
+        IdentityHashMap<Object, Object> seen = new IdentityHashMap<>();
+        int elements = elementsOf(x, seen);
+        int objects = seen.size();
+        CHECK.due("objects: " + objects, 1, () -> objects < 400 ? 1 : 0);
+        CHECK.due("fields and elements: " + elements, 1, () -> elements < 12000 ? 1 : 0);
+        for (int day = 0; day < 300; day++) {
+            x.days(1);
+            x.shake(day % 2, 1 - day % 2);
+            x.see(0, 5, 100);
+            x.hand(0);
+            x.image();
         }
-        for (Class<?> one : all) {
-            CHECK.due("static and not public: " + one, 1,
-                () -> Modifier.isStatic(one.getModifiers()) && !Modifier.isPublic(one.getModifiers()) ? 1 : 0);
-        }
+        seen.clear();
+        CHECK.due("fields and elements 300 days on", elements, () -> elementsOf(x, seen));
+        CHECK.due("objects 300 days on", objects, seen::size);
     }
 
-    private static void source() throws IOException {
-        String text = Files.readString(Path.of("src/main/java/DustParish.java"));
-        String[] never = {"\\btry\\b", "\\bcatch\\b", "\\bfinally\\b", "\\bsynchronized\\b", "\\bassert\\b", "->", "::", "\\bnull\\b",
-            "\\bpackage \\w", "System\\.(?!arraycopy)", "\\bRandom\\b", "\\bObject\\b", "Exact\\b", "\\bstatic \\{", "\\binstanceof\\b",
-            "\\bfloat\\b", "\\bdouble\\b", "import (?!java\\.util\\.(Arrays|NoSuchElementException);)",
-            "new (?!int\\[|byte\\[|State\\[|IllegalArgumentException\\(\\)|NoSuchElementException\\(\\)|Facts\\(|Present\\(|State\\(|Reader\\(|"
-            + "Rule\\(|Acts\\(|Sights\\(|Tokens\\(|RuleReader\\()"};
-        for (String pattern : never) {
-            Matcher matcher = Pattern.compile(pattern).matcher(text);
-            CHECK.due("never " + pattern, 0, () -> matcher.find() ? 1 : 0);
+    private static int elementsOf(Object one, IdentityHashMap<Object, Object> seen) {
+        if (one == null || one instanceof String || seen.put(one, one) != null) {
+            return 0;
         }
-        String[] lines = text.split("\n");
-        int start = 0;
-        for (int i = 0; i < lines.length; i++) {
-            if (lines[i].matches("( {4}| {8})(public|private|static|void|int|boolean).*\\) ?(throws .*)?\\{")) {
-                start = i;
+        if (one.getClass().isArray()) {
+            int sum = Array.getLength(one);
+            for (int i = 0; i < Array.getLength(one) && !one.getClass().getComponentType().isPrimitive(); i++) {
+                sum += elementsOf(Array.get(one, i), seen);
             }
-            if (lines[i].matches("( {4}| {8})\\}")) {
-                int length = i - start + 1;
-                String where = lines[start].trim();
-                boolean isMethod = where.endsWith("{") && !lines[i].equals("    }") || lines[start].startsWith("    p");
-                CHECK.due("sixty lines at most: " + where, 1, () -> !isMethod || length <= 60 || where.contains("class") ? 1 : 0);
+            return sum;
+        }
+        int sum = 0;
+        for (Field field : one.getClass().getDeclaredFields()) {
+            if (!Modifier.isStatic(field.getModifiers())) {
+                sum += 1 + (field.getType().isPrimitive() ? 0 : elementsOf(valueOf(field, one), seen));
             }
+        }
+        return sum;
+    }
+
+    private static Object valueOf(Field field, Object one) {
+        try {
+            field.setAccessible(true);
+            return field.get(one);
+        } catch (IllegalAccessException e) {
+            throw new IllegalStateException(e);
         }
     }
 
